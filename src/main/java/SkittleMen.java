@@ -640,26 +640,17 @@ public final class SkittleMen {
         }
 
         private int bearing(int plain, int topic, int others) {
+            int asMan = topic == sore ? Math.max(0, plain - 20) : plain;
+            int asStout = asMan + weight / 10;
+            int asChapel = topic == 0 ? 99 : asMan;
             switch (kind) {
-                case STOUT: return bearingAsStout(plain, topic);
-                case KING: return bearingAsStout(plain, topic) + 5 * others;
-                case CHAPEL: return bearingAsChapel(plain, topic);
-                case ELDER: return Math.max(0, bearingAsChapel(plain, topic) - 10);
+                case STOUT: return asStout;
+                case KING: return asStout + 5 * others;
+                case CHAPEL: return asChapel;
+                case ELDER: return Math.max(0, asChapel - 10);
                 case JIM: return 99;
-                default: return bearingAsMan(plain, topic);
+                default: return asMan;
             }
-        }
-
-        private int bearingAsMan(int plain, int topic) {
-            return topic == sore ? Math.max(0, plain - 20) : plain;
-        }
-
-        private int bearingAsStout(int plain, int topic) {
-            return bearingAsMan(plain, topic) + weight / 10;
-        }
-
-        private int bearingAsChapel(int plain, int topic) {
-            return topic == 0 ? 99 : bearingAsMan(plain, topic);
         }
 
         private int pushing() {

@@ -5,6 +5,7 @@ public final class GoesTest {
         oneGoByHand();
         settingUp();
         nerves();
+        nervesFall();
         mostGoes();
         refused();
         alley();
@@ -92,6 +93,16 @@ public final class GoesTest {
                 Due.due(12, "nerve of " + man + " behind go " + go, due[go][man], x.told(man, 1));
             }
         }
+    }
+
+    private static void nervesFall() {
+        SkittleMen x = new SkittleMen();
+        x.man(5, 50, 0, 0);
+        x.man(5, 50, 0, 0);
+        x.set(1, 5, 1);
+        x.goes(1);
+        Due.due(12, "nerve of one that stands", 51, x.told(0, 1));
+        Due.due(12, "nerve of one that is down", 49, x.told(1, 1));
     }
 
     private static void mostGoes() {

@@ -187,6 +187,7 @@ public final class MenTest {
 
     private static void saysPlain() {
         SkittleMen x = nine(50);
+        Due.due(8, "force 0", 0, x.says(0, 0, 0, 0));
         Due.due(8, "as much as it bears", 0, x.says(0, 0, 50, 0));
         Due.due(8, "all stand", 511, x.alley(3));
         Due.due(8, "one more", 1, x.says(0, 0, 51, 0));

@@ -179,6 +179,7 @@ public final class RowsTest {
         x.tell(4);
         x.feed(1, 2, 3);
         x.man(0, 0, 0, 0);
+        x.says(1, 0, 99, 0);
         Due.due(41, "back", 1, x.back());
         Due.due(41, "sheets stay", 1, x.mark(0, 2, 1));
         Due.due(41, "slots stay", 2, x.rest(0, 5));
@@ -186,6 +187,7 @@ public final class RowsTest {
         Due.due(41, "the tape stays", 12, x.count(5));
         Due.due(2, "a man at a place that was one's before", 1, x.man(0, 0, 0, 0));
         Due.due(2, "it stands", 0, x.told(1, 5));
+        Due.due(2, "it was never felled", 0, x.told(1, 4));
     }
 
     private static void count() {

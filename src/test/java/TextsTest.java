@@ -6,6 +6,7 @@ public final class TextsTest {
         texts();
         faults();
         faultsOfDepth();
+        textsBehindFaults();
         mostTexts();
         values();
         names();
@@ -75,6 +76,8 @@ public final class TextsTest {
         dueFault(6, "fee   ");
         dueFault(2, "  fees f");
         dueFault(0, "Fee f");
+        dueFault(0, "gee f");
+        dueFault(0, "fine" + "n");
         dueFault(0, "12");
         dueFault(0, "(fee f)");
         dueFault(3, "fee1");
@@ -135,6 +138,20 @@ public final class TextsTest {
         dueFault(20, "fee " + "!(".repeat(9) + "1" + ")".repeat(9));
         dueFault(14, "fee 1+(((((((((1");
         dueFault(16, "fee ((((((((1)+(((1))+1");
+    }
+
+    /** What was open in a text with a fault is nothing to the next one. */
+    private static void textsBehindFaults() {
+        SkittleMen x = new SkittleMen();
+        String[] faulty = {"fee ((((((((f+*", "fee !!!!!!!!(", "bears n+n*", "fee f&f|f<f+f*("};
+        for (int i = 0; i < faulty.length; i++) {
+            Due.due(26, "fault", -100 - faulty[i].length() + (i == 0 ? 1 : 0), Due.text(x, faulty[i]));
+            Due.due(26, "text behind " + faulty[i], 2 * i, Due.text(x, "fee ((((((((8-3))))))))"));
+            Due.due(22, "fee behind " + faulty[i], 5, x.fee());
+            Due.due(26, "fault", -105, Due.text(x, "fee 4)"));
+            Due.due(26, "text behind )", 2 * i + 1, Due.text(x, "fee !!!!!!!!7+1"));
+            Due.due(22, "fee behind )", 2, x.fee());
+        }
     }
 
     private static void mostTexts() {

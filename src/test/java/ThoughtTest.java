@@ -6,6 +6,8 @@ public final class ThoughtTest {
         pair();
         clear();
         clearByTextsOfThoseThatStand();
+        onlyToTheRight();
+        onlyTheFirstTopic();
         force();
         behind();
         falls();
@@ -140,6 +142,34 @@ public final class ThoughtTest {
         x.set(0, 5, 1);
         x.set(1, 5, 1);
         Due.due(14, "best, when two stand", 0, x.best(40, 0));
+    }
+
+    /** 2 falls by the push of 0 alone, and only while 1 stands: the right turn is better than the straight one. */
+    private static void onlyToTheRight() {
+        SkittleMen x = new SkittleMen();
+        int[][] men = {{0, 60}, {0, 0}, {40, 60}, {0, 0}, {0, 0}, {0, 0}};
+        for (int[] one : men) {
+            x.man(0, one[0], one[1], 7);
+        }
+        x.set(3, 5, 1);
+        x.set(4, 5, 1);
+        Due.text(x, "bears n+(s<3)*(w>50)*99");
+        dueBest(x, 10, 3, 0, 0, 1);
+        Due.due(15, "pair, to the right", 4, x.pair(10));
+        Due.due(16, "clear, to the right", 2, x.clear(10));
+    }
+
+    private static void onlyTheFirstTopic() {
+        SkittleMen x = new SkittleMen();
+        x.man(0, 30, 0, 0);
+        dueBest(x, 15, 1, 0, 0, -1);
+        Due.due(15, "pair by topic 0", 1, x.pair(15));
+        Due.due(16, "clear by topic 0", 1, x.clear(15));
+        Due.due(15, "pair(0)", 0, x.pair(0));
+        Due.due(16, "clear(0)", Due.NONE, x.clear(0));
+        x.set(0, 3, 7);
+        Due.due(17, "force of topic 7", 11, x.force(0, 7));
+        Due.due(16, "clear by topic 7", 1, x.clear(15));
     }
 
     private static void force() {
