@@ -607,7 +607,7 @@ public final class SkittleMen {
         return Math.max(0, Math.min(v, most));
     }
 
-    /** One man; the rules of his kind ask those of the kind above it. */
+    /** One man, and what his kind makes of him. */
     private static final class Man {
         private static final int STOUT = 1, CHAPEL = 2, KING = 3, ELDER = 4, JIM = 5, NO_KIND = -1;
         private static final int[] KIND_ABOVE = {NO_KIND, 0, 0, STOUT, CHAPEL, 0};

@@ -143,14 +143,14 @@ public final class TextsTest {
     /** What was open in a text with a fault is nothing to the next one. */
     private static void textsBehindFaults() {
         SkittleMen x = new SkittleMen();
-        String[] faulty = {"fee ((((((((f+*", "fee !!!!!!!!(", "bears n+n*", "fee f&f|f<f+f*("};
+        String[] faulty = {"fee ((((((((f+*", "fee !!!!!!!!(", "bears n+n*", "fee f&f|f<f+f*(", "fee 1<"};
         for (int i = 0; i < faulty.length; i++) {
             Due.due(26, "fault", -100 - faulty[i].length() + (i == 0 ? 1 : 0), Due.text(x, faulty[i]));
             Due.due(26, "text behind " + faulty[i], 2 * i, Due.text(x, "fee ((((((((8-3))))))))"));
             Due.due(22, "fee behind " + faulty[i], 5, x.fee());
-            Due.due(26, "fault", -105, Due.text(x, "fee 4)"));
-            Due.due(26, "text behind )", 2 * i + 1, Due.text(x, "fee !!!!!!!!7+1"));
-            Due.due(22, "fee behind )", 2, x.fee());
+            Due.due(26, "fault", -108, Due.text(x, "fee 4<3+)"));
+            Due.due(26, "text behind )", 2 * i + 1, Due.text(x, "fee !!!!!!!!7+1<3"));
+            Due.due(22, "fee behind )", 1, x.fee());
         }
     }
 
