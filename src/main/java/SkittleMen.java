@@ -17,8 +17,8 @@ public final class SkittleMen {
     private final Alley thought = new Alley();
     private boolean kept = false;
     private final Search search = new Search();
-    private final Tape tape = new Tape();
-    private final TextReader reader = new TextReader(tape);
+    private final TextReader reader = new TextReader();
+    private final Tape tape = reader.tape;
     private final Sheet[] sheets = new Sheet[SHEETS];
     private final Slot[] slots = new Slot[SLOTS];
     private final int[] waiting = new int[MOST_WAITING];
@@ -399,7 +399,7 @@ public final class SkittleMen {
         if (v != NONE && !isWithin(v, -MOST_FLOAT, MOST_FLOAT)) {
             return BAD;
         }
-        row.places[place] = v == NONE ? Sheet.NO_NUMBER : v;
+        row.places[place] = v;
         return 1;
     }
 
@@ -1088,12 +1088,12 @@ public final class SkittleMen {
         }
     }
 
-    /** Reads a tape word by word; signs that wait for their right side stand on a stack. */
+    /** Reads its tape word by word; signs that wait for their right side stand on a stack. */
     private static final class TextReader {
         private static final int FAULTLESS = -1, END = 0, LETTERS = 1, DIGITS = 2, SIGN = 3;
         private static final int MOST_DIGITS = 4, MOST_OPEN = 8, NOT_JOINING = 0, COMPARING = 3;
 
-        private final Tape tape;
+        private final Tape tape = new Tape();
         private int sort = END;
         private int start = 0;
         private int end = 0;
@@ -1107,10 +1107,6 @@ public final class SkittleMen {
         private int signSize = 0;
         private final int[] code = new int[MOST_BYTES];
         private int codeSize = 0;
-
-        private TextReader(Tape itsTape) {
-            tape = itsTape;
-        }
 
         /** The place of the tape's fault, or FAULTLESS. */
         private int faultFound() {
@@ -1334,9 +1330,9 @@ public final class SkittleMen {
         }
     }
 
-    /** A row of places; a place without a number has a mark that neither sort can hold. */
+    /** A row of places; one that is no number has NONE, which is no number of either sort. */
     private static final class Sheet {
-        private static final int MISSING = -1, SHORTS = 0, FLOATS = 1, NO_NUMBER = Integer.MIN_VALUE;
+        private static final int MISSING = -1, SHORTS = 0, FLOATS = 1;
 
         private int sort = MISSING;
         private int size = 0;
@@ -1367,7 +1363,7 @@ public final class SkittleMen {
         }
 
         private boolean isNumber(int place) {
-            return has(place) && places[place] != NO_NUMBER;
+            return has(place) && places[place] != NONE;
         }
     }
 

@@ -17,8 +17,13 @@ final class Due {
     }
 
     static void wrong(int promise, String what) {
+        outside("promise " + promise + ": " + what);
+    }
+
+    /** Something is wrong that belongs to no promise. */
+    static void outside(String what) {
         wrong++;
-        System.out.println("promise " + promise + ": " + what);
+        System.out.println(what);
     }
 
     static void end() {
